@@ -232,6 +232,7 @@ public final class TokenScanner {
         private final int[] units = new int[MOST_BYTES];
         private int size;
 
+        /** Leaves the END, which is what stands where nothing is read. */
         void clear() {
             kind = END;
             first = 0;
@@ -361,7 +362,7 @@ public final class TokenScanner {
         /** Which of them the token's units are. */
         int exactly(Token token) {
             for (int n = 0; n < starts.length - 1; n++) {
-                if (lengthOf(n) == token.size && isOf(n, token)) {
+                if (isOf(n, token)) {
                     return n;
                 }
             }
@@ -379,13 +380,18 @@ public final class TokenScanner {
             return longest;
         }
 
+        /** 0 where there is none, so that no loop over its letters then begins. */
         int lengthOf(int n) {
             return n >= 0 && n < starts.length - 1 ? starts[n + 1] - starts[n] - 1 : 0;
         }
 
         private boolean isOf(int n, Token token) {
-            for (int k = 0; k < token.size; k++) {
-                if (letterOf(n, k) != token.units[k]) {
+            int length = lengthOf(n);
+            if (length != token.size) {
+                return false;
+            }
+            for (int k = 0; k < length; k++) {
+                if (list.charAt(starts[n] + k) != token.units[k]) {
                     return false;
                 }
             }
@@ -395,15 +401,11 @@ public final class TokenScanner {
         private boolean standsAt(int n, Source source, int place) {
             int length = lengthOf(n);
             for (int k = 0; k < length; k++) {
-                if (letterOf(n, k) != source.at(place + k)) {
+                if (list.charAt(starts[n] + k) != source.at(place + k)) {
                     return false;
                 }
             }
             return true;
-        }
-
-        private int letterOf(int n, int k) {
-            return k >= 0 && k < lengthOf(n) ? list.charAt(starts[n] + k) : NONE;
         }
     }
 
@@ -483,7 +485,17 @@ public final class TokenScanner {
                 return false;
             }
             token.first = at;
-            boolean stands = readByFirst(source.at(at));
+            int c = source.at(at);
+            boolean stands = true;
+            if (Units.canStartName(c) || c == '\\') {
+                stands = readName();
+            } else if (Units.isDigit(c) || (c == '.' && Units.isDigit(source.at(at + 1)))) {
+                stands = readNumber();
+            } else if (c == '"' || c == '\'') {
+                stands = readText(c);
+            } else if (c != NONE) {
+                stands = readSign();
+            }
             token.behind = at;
             return stands;
         }
@@ -506,20 +518,6 @@ public final class TokenScanner {
             takeBytesAsUnits();
             token.behind = at;
             return true;
-        }
-
-        private boolean readByFirst(int c) {
-            if (c == NONE) {
-                token.kind = END;
-                return true;
-            }
-            if (Units.canStartName(c) || c == '\\') {
-                return readName();
-            }
-            if (Units.isDigit(c) || (c == '.' && Units.isDigit(source.at(at + 1)))) {
-                return readNumber();
-            }
-            return c == '"' || c == '\'' ? readText(c) : readSign();
         }
 
         private boolean refuse(int place) {
@@ -734,7 +732,12 @@ public final class TokenScanner {
                 return true;
             }
             if (c == 'x' || c == 'u') {
-                return readHexEscape(c == 'x' ? 2 : 4);
+                int value = readHex(c == 'x' ? 2 : 4);
+                if (value == NONE) {
+                    return false;
+                }
+                token.add(value);
+                return true;
             }
             token.add(Units.escapedBy(c));
             return true;
@@ -756,15 +759,6 @@ public final class TokenScanner {
             if (firstOfIt == 13 && source.at(at) == 10) {
                 at++;
             }
-        }
-
-        private boolean readHexEscape(int digits) {
-            int value = readHex(digits);
-            if (value == NONE) {
-                return false;
-            }
-            token.add(value);
-            return true;
         }
 
         private boolean readSign() {
