@@ -10,12 +10,18 @@ final class Check {
 
     private int wrong = 0;
     private int asked = 0;
+    private String sentence = "";
+
+    /** The words of the document that the answers from here on are held to. */
+    void sentence(String words) {
+        sentence = "[" + words + "] ";
+    }
 
     void due(String what, Object got, Object want) {
         asked++;
         if (!String.valueOf(want).equals(String.valueOf(got))) {
             wrong++;
-            tell(what + " answered " + got + ", due is " + want);
+            tell(sentence + shown(what) + " answered " + shown(got) + ", due is " + shown(want));
         }
     }
 
@@ -23,6 +29,49 @@ final class Check {
         if (wrong <= MOST_TOLD) {
             System.out.println(what);
         }
+    }
+
+    /** Texts, each with its kinds behind it. */
+    void dueKinds(String... pairs) {
+        for (int k = 0; k + 1 < pairs.length; k += 2) {
+            due("kinds of " + pairs[k], kinds(pairs[k]), pairs[k + 1]);
+        }
+    }
+
+    /** Texts, each with its kinds behind it where for each / and /= a pattern is asked for. */
+    void dueKindsWithPatterns(String... pairs) {
+        for (int k = 0; k + 1 < pairs.length; k += 2) {
+            due("kinds with patterns of " + pairs[k], kindsWithPatterns(pairs[k]), pairs[k + 1]);
+        }
+    }
+
+    /** Texts, each with the units of its first token behind it. */
+    void dueUnits(String... pairs) {
+        for (int k = 0; k + 1 < pairs.length; k += 2) {
+            String text = pairs[k];
+            due("units of " + text, of(() -> units(begun(text))), pairs[k + 1]);
+        }
+    }
+
+    /** All that token tells of the token that stands, in the order of what. */
+    void dueToken(String of, TokenScanner x, int... due) {
+        for (int what = 0; what < due.length; what++) {
+            int asked = what;
+            due("token " + what + " of " + of, of(() -> x.token(asked)), due[what]);
+        }
+    }
+
+    /** Control bytes told by their number, so that a terminal shows what is wrong. */
+    static String shown(Object answer) {
+        StringBuilder shown = new StringBuilder();
+        for (char c : String.valueOf(answer).toCharArray()) {
+            if (c < 32 || c > 126) {
+                shown.append('<').append((int) c).append('>');
+            } else {
+                shown.append(c);
+            }
+        }
+        return shown.toString();
     }
 
     void done() {
@@ -69,6 +118,24 @@ final class Check {
         TokenScanner x = fed(text);
         x.begin();
         return x;
+    }
+
+    static boolean isLetter(int c) {
+        return c >= 'A' && c <= 'Z' || c >= 'a' && c <= 'z' || c == '$' || c == '_' || c == 170 || c == 181 || c == 186
+            || c >= 192 && c <= 214 || c >= 216 && c <= 246 || c >= 248 && c <= 255;
+    }
+
+    static boolean isDigit(int c) {
+        return c >= '0' && c <= '9';
+    }
+
+    static boolean isLineEnd(int c) {
+        return c == 10 || c == 13;
+    }
+
+    /** The escape uXXXX of a unit. */
+    static String escape(int unit) {
+        return String.format("\\u%04x", unit);
     }
 
     /** The kinds of all tokens, and ! and the place if it is refused; each / and /= as a sign. */
