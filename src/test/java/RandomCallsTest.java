@@ -1,16 +1,23 @@
+import java.util.ArrayList;
+import java.util.List;
+
 /**
- * Runs of 512 random calls with any arguments: nothing but the document's exceptions ever reaches
- * the caller, and whether there is a text and a token follows from the calls alone.
+ * Runs of 512 random calls with any arguments, each answer held to a model of the document: the
+ * text as a string, the token as the grammar tells it, names and literals as lists.
  */
 public final class RandomCallsTest {
     private static final int RUNS = 2000;
-    private static final int[] EDGES = {-2, -1, 0, 1, 2, 7, 8, 9, 10, 1023, 1024, 2000, 8192, Integer.MAX_VALUE, Integer.MIN_VALUE};
+    private static final int[] EDGES = {-2, -1, 0, 1, 2, 3, 4, 5, 6, 7, 8, 9, 10, 1023, 1024, 2000, 8192, Integer.MAX_VALUE, Integer.MIN_VALUE};
 
     private final Check check;
     private final RandomTexts texts;
     private final TokenScanner x = new TokenScanner();
-    private int bytes = 0;
-    private int kind = -1;
+    private final List<String> names = new ArrayList<>();
+    private final List<String> literals = new ArrayList<>();
+    private String text = "";
+    private Grammar.Told token = null;
+    private boolean refused = false;
+    private int calls = 0;
 
     private RandomCallsTest(Check check, RandomTexts texts) {
         this.check = check;
@@ -22,103 +29,192 @@ public final class RandomCallsTest {
         RandomTexts texts = new RandomTexts();
         for (int run = 0; run < RUNS; run++) {
             RandomCallsTest test = new RandomCallsTest(check, texts);
-            for (int call = 0; call < 512; call++) {
+            // Runs of long texts are few, since they leave few calls for anything else.
+            if (run % 20 == 0) {
+                test.feedLongText();
+            }
+            while (test.calls < 500) {
                 test.oneCall();
             }
         }
         check.done();
     }
 
+    private void due(String call, String got, Object want) {
+        calls++;
+        check.due(call + " in " + text, got, want);
+    }
+
+    private void feedLongText() {
+        String piece = "'" + "z".repeat(600 + texts.below(1300)) + "'";
+        for (int at = 0; at < piece.length(); at += 8) {
+            feed(piece.substring(at, Math.min(at + 8, piece.length())));
+        }
+    }
+
     private void oneCall() {
         int which = texts.below(16);
         if (which < 3) {
-            feed();
+            feedAny();
         } else if (which == 3) {
-            move("begin", Check.of(x::begin), kind < 0);
-        } else if (which < 9) {
-            move("next", Check.of(x::next), kind > 0);
-        } else if (which == 9) {
-            boolean slash = kind == 4 && (x.token(6) == 22 || x.token(6) == 52);
-            move("pattern", Check.of(x::pattern), slash);
-        } else if (which == 10 && texts.below(20) == 0) {
+            begin();
+        } else if (which < 7) {
+            next();
+        } else if (which == 7) {
+            pattern();
+        } else if (which == 8) {
             endText();
         } else {
             ask(which);
         }
     }
 
-    private void feed() {
-        int n = texts.below(10) == 0 ? EDGES[texts.below(EDGES.length)] : 1 + texts.below(8);
-        long piece = texts.below(8) == 0 ? texts.any() : piece(texts.text());
-        String got = Check.of(() -> x.feed(piece, n));
+    private void feedAny() {
+        if (texts.below(8) == 0) {
+            int n = EDGES[texts.below(EDGES.length)];
+            long bytes = texts.any();
+            StringBuilder piece = new StringBuilder();
+            for (int left = Math.min(n, 8); left > 0; left--) {
+                piece.append((char) (bytes >>> 8 * (left - 1) & 255));
+            }
+            feed(bytes, n, piece.toString());
+        } else if (token == null) {
+            String more = texts.text();
+            for (int at = 0; at < more.length(); at += 8) {
+                feed(more.substring(at, Math.min(at + 8, more.length())));
+            }
+        } else {
+            feed("a");
+        }
+    }
+
+    private void feed(String piece) {
+        // What stands above the lowest bytes must not matter.
+        long bytes = texts.any();
+        for (char c : piece.toCharArray()) {
+            bytes = bytes << 8 | c;
+        }
+        feed(bytes, piece.length(), piece);
+    }
+
+    private void feed(long bytes, int n, String piece) {
+        String got = Check.of(() -> x.feed(bytes, n));
         if (n < 1 || n > 8) {
-            check.due("feed", got, Check.ARGUMENT);
-        } else if (kind >= 0 || bytes + n > 2000) {
-            check.due("feed", got, Check.STATE);
+            due("feed", got, Check.ARGUMENT);
+        } else if (token != null || text.length() + n > 2000) {
+            due("feed", got, Check.STATE);
         } else {
-            bytes += n;
-            check.due("feed", got, bytes);
+            text += piece;
+            due("feed", got, text.length());
         }
     }
 
-    private static long piece(String text) {
-        long piece = 0x2020202020202020L;
-        for (int k = 0; k < text.length() && k < 8; k++) {
-            piece = piece << 8 | text.charAt(k);
+    private void begin() {
+        String got = Check.of(x::begin);
+        if (token != null) {
+            due("begin", got, Check.STATE);
+        } else {
+            names.clear();
+            literals.clear();
+            refused = false;
+            move("begin", got, Grammar.tokenBehind(text, 0));
         }
-        return piece;
     }
 
-    private void move(String call, String got, boolean may) {
-        if (!may) {
-            check.due(call, got, Check.STATE);
-        } else if (got.equals(Check.ARGUMENT)) {
-            check.due(call + " refused within the text", x.place() >= 0 && x.place() <= bytes, true);
-            useUp();
+    private void next() {
+        String got = Check.of(x::next);
+        if (token == null || token.kind() == 0) {
+            due("next", got, Check.STATE);
         } else {
-            kind = Integer.parseInt(got);
-            check.due("token 0", x.token(0), kind);
-            check.due("its places", x.token(1) <= x.token(2) && x.token(2) <= bytes, true);
-            check.due("place", x.place(), -1);
+            move("next", got, Grammar.tokenBehind(text, token.behind()));
+        }
+    }
+
+    private void pattern() {
+        String got = Check.of(x::pattern);
+        if (token == null || token.sign() != 22 && token.sign() != 52) {
+            due("pattern", got, Check.STATE);
+        } else {
+            move("pattern", got, Grammar.patternAt(text, token));
+        }
+    }
+
+    private void move(String call, String got, Grammar.Told told) {
+        due(call, got, told == null ? Check.ARGUMENT : told.kind());
+        token = told;
+        if (told == null) {
+            refused = true;
+            due("place", "" + (x.place() >= 0 && x.place() <= text.length()), true);
+            text = "";
         }
     }
 
     private void endText() {
-        check.due("end", Check.ofEnd(x), kind < 0 ? Check.STATE : "ends");
-        if (kind >= 0) {
-            useUp();
+        due("end", Check.ofEnd(x), token == null ? Check.STATE : "ends");
+        if (token != null) {
+            token = null;
+            text = "";
         }
-    }
-
-    private void useUp() {
-        bytes = 0;
-        kind = -1;
     }
 
     private void ask(int which) {
         int a = EDGES[texts.below(EDGES.length)];
         int b = EDGES[texts.below(EDGES.length)];
         switch (which) {
+            case 9:
+            case 10:
+                due("token " + a, Check.of(() -> x.token(a)), a < 0 || a > 8 ? Check.ARGUMENT : token == null ? Check.STATE : token.what(a));
+                break;
             case 11:
-                check.due("token " + a, thrown(Check.of(() -> x.token(a))), a < 0 || a > 8 ? Check.ARGUMENT : kind < 0 ? Check.STATE : "");
+                due("unit " + a, Check.of(() -> x.unit(a)), token == null ? Check.STATE : unitOf(token.units(), a));
                 break;
             case 12:
-                check.due("unit " + a, thrown(Check.of(() -> x.unit(a))), kind < 0 ? Check.STATE : a < 0 || a >= x.token(7) ? Check.INDEX : "");
+                due("name", Check.of(x::name), nameDue());
                 break;
             case 13:
-                check.due("name", thrown(Check.of(x::name)), kind >= 1 && kind <= 3 ? "" : Check.STATE);
+                due("literal", Check.of(x::literal), literalDue());
                 break;
             case 14:
-                String got = thrown(Check.of(x::literal));
-                check.due("literal", got, kind == 2 || kind == 3 || kind == 5 ? "" : Check.STATE);
+                due("place", "" + (x.place() >= 0), refused);
                 break;
             default:
-                String answer = Check.of(() -> x.text(texts.below(2) == 0, a, b));
-                check.due("text", !answer.startsWith("throws.") || answer.equals(Check.INDEX), true);
+                boolean literal = texts.below(2) == 0;
+                List<String> kept = literal ? literals : names;
+                int n = kept.isEmpty() || texts.below(3) == 0 ? a : texts.below(kept.size());
+                due("text", Check.of(() -> x.text(literal, n, b)), textDue(kept, n, b));
         }
     }
 
-    private static String thrown(String answer) {
-        return answer.startsWith("throws.") ? answer : "";
+    private static String unitOf(String units, int i) {
+        return i < 0 || i >= units.length() ? Check.INDEX : "" + (int) units.charAt(i);
+    }
+
+    private String nameDue() {
+        if (token == null || token.kind() < 1 || token.kind() > 3) {
+            return Check.STATE;
+        }
+        if (!names.contains(token.units())) {
+            names.add(token.units());
+        }
+        return "" + names.indexOf(token.units());
+    }
+
+    private String literalDue() {
+        if (token == null || token.kind() != 2 && token.kind() != 3 && token.kind() != 5) {
+            return Check.STATE;
+        }
+        int units = literals.stream().mapToInt(String::length).sum();
+        if (literals.size() == 1024 || units + token.units().length() > 8192) {
+            return Check.STATE;
+        }
+        literals.add(token.units());
+        return "" + (literals.size() - 1);
+    }
+
+    private static String textDue(List<String> kept, int n, int i) {
+        if (n < 0 || n >= kept.size()) {
+            return Check.INDEX;
+        }
+        return i == -1 ? "" + kept.get(n).length() : unitOf(kept.get(n), i);
     }
 }
